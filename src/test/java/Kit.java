@@ -1,0 +1,174 @@
+import java.util.ArrayList;
+import java.util.List;
+import java.util.NoSuchElementException;
+
+/** What the tests share: a house, ways to put bytes into it, and a count of wrong answers. */
+final class Kit {
+    private static int wrong = 0;
+
+    final PatchHouse house = new PatchHouse();
+
+    static void due(String what, long got, long want) {
+        if (got != want) {
+            wrong++;
+            if (wrong <= 50) {
+                System.out.println(what + " answered " + got + ", due is " + want);
+            }
+        }
+    }
+
+    static void finish() {
+        if (wrong != 0) {
+            System.out.println(wrong + " answers are not as due");
+            System.exit(1);
+        }
+    }
+
+    // Bytes.
+
+    static int[] join(int[]... parts) {
+        List<Integer> all = new ArrayList<>();
+        for (int[] part : parts) {
+            for (int b : part) {
+                all.add(b & 255);
+            }
+        }
+        int[] bytes = new int[all.size()];
+        for (int i = 0; i < bytes.length; i++) {
+            bytes[i] = all.get(i);
+        }
+        return bytes;
+    }
+
+    static int[] b(int... bytes) {
+        return bytes;
+    }
+
+    static int[] times(int count, int... bytes) {
+        int[][] parts = new int[count][];
+        for (int i = 0; i < count; i++) {
+            parts[i] = bytes;
+        }
+        return join(parts);
+    }
+
+    static int[] four(int value) {
+        return b(value >>> 24, value >> 16 & 255, value >> 8 & 255, value & 255);
+    }
+
+    static int[] eight(long value) {
+        return join(four((int) (value >> 32)), four((int) value));
+    }
+
+    static int[] bits(double value) {
+        return eight(Double.doubleToLongBits(value));
+    }
+
+    // OPS that are much used.
+
+    static int[] n(int number, int value) {
+        return join(b(1, number), four(value));
+    }
+
+    static int[] r(int real, double value) {
+        return join(b(4, real), bits(value));
+    }
+
+    static int[] choice(int number, int[] yes, int[] no) {
+        return join(b(30, number, yes.length, no.length), yes, no);
+    }
+
+    static int[] rounds(int number, int[] body) {
+        return join(b(31, number, body.length), body);
+    }
+
+    static int[] scope(int kinds, int slots, int[] body, int[] handler, int[] always) {
+        return join(b(32, kinds, slots & 255, slots >> 8, body.length, handler.length, always.length),
+            body, handler, always);
+    }
+
+    // Calls.
+
+    void tape(int... bytes) {
+        house.end(0);
+        for (int i = 0; i < bytes.length; i += 20) {
+            int[] words = new int[5];
+            for (int k = 0; k < 20; k++) {
+                int value = i + k < bytes.length ? bytes[i + k] & 255 : 0;
+                words[k / 4] = words[k / 4] << 8 | value;
+            }
+            house.feed(words[0], words[1], words[2], words[3], words[4]);
+        }
+        due("end", house.end(bytes.length), bytes.length);
+    }
+
+    int patch(int p, int[]... parts) {
+        tape(join(parts));
+        return house.patch(p);
+    }
+
+    int load(int s, int[]... parts) {
+        tape(join(parts));
+        return house.load(s);
+    }
+
+    /** Makes these bytes PATCH p and runs it. */
+    int does(int p, int fuel, int[]... parts) {
+        due("patch", patch(p, parts), 0);
+        return house.run(p, fuel);
+    }
+
+    /** Runs the bytes as PATCH 15 and looks at what it answers, its FAULT and the FUEL it took. */
+    void run(String what, int answer, int kind, int taken, int[]... parts) {
+        due(what + ": run", does(15, 1000, parts), answer);
+        due(what + ": kind", house.look(0), kind);
+        due(what + ": FUEL", 1000 - house.look(2), taken);
+    }
+
+    void saved(String what, int s, int[]... parts) {
+        int[] want = join(parts);
+        due(what + ": save", house.save(s), want.length);
+        due(what + ": look(5)", house.look(5), want.length);
+        for (int i = 0; i < want.length; i++) {
+            due(what + ": out(" + i + ")", out(i), want[i]);
+        }
+        due(what + ": out at the end", out(want.length), MISSING);
+        due(what + ": out(-1)", out(-1), MISSING);
+    }
+
+    // Calls that may throw: what is told instead is no answer of these.
+
+    static final long MISSING = 0x5A5A5A5A5A5A5A5AL;
+
+    long out(int i) {
+        try {
+            return house.out(i);
+        } catch (NoSuchElementException e) {
+            return MISSING;
+        }
+    }
+
+    long number(int n) {
+        try {
+            return house.number(n);
+        } catch (NoSuchElementException e) {
+            return MISSING;
+        }
+    }
+
+    long real(int r) {
+        try {
+            return house.real(r);
+        } catch (NoSuchElementException e) {
+            return MISSING;
+        }
+    }
+
+    long member(int s, int i) {
+        try {
+            return house.member(s, i);
+        } catch (NoSuchElementException e) {
+            return MISSING;
+        }
+    }
+}
