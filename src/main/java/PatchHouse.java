@@ -983,6 +983,17 @@ public final class PatchHouse {
         static final int SCOPE = 32;
         static final int CALL = 33;
 
+        private static final int LAST_NUMBER = Ops.NUMBERS - 1;
+        private static final int LAST_REAL = Ops.REALS - 1;
+        private static final int LAST_SLOT = Ops.SLOTS - 1;
+        private static final int LAST_CLASS = Part.CLASSES - 1;
+
+        // Operands with the same bounds in each OP, and the greatest of each.
+        private static final String LETTERS = "nrswcp";
+        private static final int[] GREATEST = {
+            LAST_NUMBER, LAST_REAL, LAST_SLOT, Thing.BITS, LAST_CLASS, MOST_BYTES,
+        };
+
         final byte[] code = new byte[COUNT * MOST_BYTES];
         final int[] lengths = new int[COUNT];
 
@@ -1062,28 +1073,17 @@ public final class PatchHouse {
 
         /** The greatest value of an operand; first is the OP's first operand. */
         private static int greatest(char operand, int op, int first) {
-            switch (operand) {
-                case 'n':
-                    return Ops.NUMBERS - 1;
-                case 'r':
-                    return Ops.REALS - 1;
-                case 's':
-                    return Ops.SLOTS - 1;
-                case 'w':
-                    return Thing.BITS;
-                case 'c':
-                    return Part.CLASSES - 1;
-                case 'h':
-                    return choices(op) - 1;
-                case 'v':
-                    return (first == Thing.FLOATS || first == Thing.DOUBLES ? Ops.REALS : Ops.NUMBERS) - 1;
-                case 'f':
-                    return (first == 1 ? Ops.REALS : first == 3 ? Ops.SLOTS : Ops.NUMBERS) - 1;
-                case 'p':
-                    return MOST_BYTES;
-                default:
-                    return 255;
+            if (operand == 'h') {
+                return choices(op) - 1;
             }
+            if (operand == 'v') {
+                return first == Thing.FLOATS || first == Thing.DOUBLES ? LAST_REAL : LAST_NUMBER;
+            }
+            if (operand == 'f') {
+                return first == 1 ? LAST_REAL : first == 3 ? LAST_SLOT : LAST_NUMBER;
+            }
+            int letter = LETTERS.indexOf(operand);
+            return letter >= 0 && letter < GREATEST.length ? GREATEST[letter] : 255;
         }
 
         /** How many parts stand behind an OP. */

@@ -1,5 +1,5 @@
-import java.util.NoSuchElementException;
 import java.util.Random;
+import java.util.function.LongSupplier;
 
 /** Runs of calls that a seed makes, on PatchHouse and on the Model: every answer is the same. */
 public final class FuzzTest {
@@ -32,6 +32,10 @@ public final class FuzzTest {
     private void due(String what, long got, long want) {
         calls++;
         Kit.due("seed " + seed + ", call " + calls + ": " + what, got, want);
+    }
+
+    private void dueOf(String what, LongSupplier got, LongSupplier want) {
+        due(what, Kit.answer(got), Kit.answer(want));
     }
 
     private int below(int n) {
@@ -260,49 +264,17 @@ public final class FuzzTest {
         due("save " + s, house.save(s), answer);
         SAVES[answer >= 0 ? 0 : answer == -3 ? 1 : 2]++;
         for (int i = -1; i < answer + 2; i++) {
-            long want;
-            try {
-                want = model.out(i);
-            } catch (NoSuchElementException e) {
-                want = Kit.MISSING;
-            }
-            long got;
-            try {
-                got = house.out(i);
-            } catch (NoSuchElementException e) {
-                got = Kit.MISSING;
-            }
-            due("out " + i, got, want);
+            int at = i;
+            dueOf("out " + i, () -> house.out(at), () -> model.out(at));
         }
     }
 
     private void tellAll() {
         for (int i = -2; i < 25; i++) {
+            int at = i;
             due("look " + i, house.look(i), model.look(i));
-            long want;
-            long got;
-            try {
-                want = model.number(i);
-            } catch (NoSuchElementException e) {
-                want = Kit.MISSING;
-            }
-            try {
-                got = house.number(i);
-            } catch (NoSuchElementException e) {
-                got = Kit.MISSING;
-            }
-            due("number " + i, got, want);
-            try {
-                want = model.real(i);
-            } catch (NoSuchElementException e) {
-                want = Kit.MISSING;
-            }
-            try {
-                got = house.real(i);
-            } catch (NoSuchElementException e) {
-                got = Kit.MISSING;
-            }
-            due("real " + i, got, want);
+            dueOf("number " + i, () -> house.number(at), () -> model.number(at));
+            dueOf("real " + i, () -> house.real(at), () -> model.real(at));
         }
         for (int s = -1; s < 17; s++) {
             tellSlot(s);
@@ -318,19 +290,8 @@ public final class FuzzTest {
         }
         int most = Math.min(12, Math.max(4, model.slot(s, 1) + 1));
         for (int i = -1; i < most; i++) {
-            long want;
-            long got;
-            try {
-                want = model.member(s, i);
-            } catch (NoSuchElementException e) {
-                want = Kit.MISSING;
-            }
-            try {
-                got = house.member(s, i);
-            } catch (NoSuchElementException e) {
-                got = Kit.MISSING;
-            }
-            due("member " + s + " " + i, got, want);
+            int at = i;
+            dueOf("member " + s + " " + i, () -> house.member(s, at), () -> model.member(s, at));
         }
     }
 

@@ -1,6 +1,7 @@
 import java.util.ArrayList;
 import java.util.List;
 import java.util.NoSuchElementException;
+import java.util.function.LongSupplier;
 
 /** What the tests share: a house, ways to put bytes into it, and a count of wrong answers. */
 final class Kit {
@@ -140,35 +141,27 @@ final class Kit {
 
     static final long MISSING = 0x5A5A5A5A5A5A5A5AL;
 
-    long out(int i) {
+    static long answer(LongSupplier call) {
         try {
-            return house.out(i);
+            return call.getAsLong();
         } catch (NoSuchElementException e) {
             return MISSING;
         }
+    }
+
+    long out(int i) {
+        return answer(() -> house.out(i));
     }
 
     long number(int n) {
-        try {
-            return house.number(n);
-        } catch (NoSuchElementException e) {
-            return MISSING;
-        }
+        return answer(() -> house.number(n));
     }
 
     long real(int r) {
-        try {
-            return house.real(r);
-        } catch (NoSuchElementException e) {
-            return MISSING;
-        }
+        return answer(() -> house.real(r));
     }
 
     long member(int s, int i) {
-        try {
-            return house.member(s, i);
-        } catch (NoSuchElementException e) {
-            return MISSING;
-        }
+        return answer(() -> house.member(s, i));
     }
 }

@@ -40,45 +40,6 @@ public final class RealsTest {
         }
     }
 
-    private static double paired(int h, double x, double y) {
-        switch (h) {
-            case 0: return x + y;
-            case 1: return x - y;
-            case 2: return x * y;
-            case 3: return x / y;
-            case 4: return x % y;
-            case 5: return Math.max(x, y);
-            case 6: return Math.min(x, y);
-            default: return StrictMath.copySign(x, y);
-        }
-    }
-
-    private static double changed(int h, double x) {
-        switch (h) {
-            case 0: return Math.abs(x);
-            case 1: return Math.floor(x);
-            case 2: return Math.ceil(x);
-            case 3: return Math.rint(x);
-            case 4: return Math.signum(x);
-            case 5: return Math.sqrt(x);
-            case 6: return Math.ulp(x);
-            case 7: return Math.nextUp(x);
-            case 8: return -x;
-            default: return (double) (float) x;
-        }
-    }
-
-    private static boolean holds(int h, double x, double y) {
-        switch (h) {
-            case 0: return x < y;
-            case 1: return x <= y;
-            case 2: return x > y;
-            case 3: return x >= y;
-            case 4: return x == y;
-            default: return x != y;
-        }
-    }
-
     private static int[] take(int real, long bits) {
         return Kit.join(Kit.b(4, real), Kit.eight(bits));
     }
@@ -89,9 +50,9 @@ public final class RealsTest {
         String what = Long.toHexString(x) + " " + Long.toHexString(y);
         for (int h = 0; h < 8; h += 2) {
             kit.does(0, 10, take(1, y), take(0, x), Kit.b(7, 0, 1, h), take(2, x), Kit.b(7, 2, 1, h + 1));
-            Kit.due("7 " + h + " " + what, kit.house.real(0), Double.doubleToLongBits(paired(h, a, b)));
+            Kit.due("7 " + h + " " + what, kit.house.real(0), Double.doubleToLongBits(Model.two(h, a, b)));
             Kit.due("7 " + (h + 1) + " " + what, kit.house.real(2),
-                Double.doubleToLongBits(paired(h + 1, a, b)));
+                Double.doubleToLongBits(Model.two(h + 1, a, b)));
         }
         int[] compare = Kit.join(take(0, x), take(1, y));
         for (int h = 0; h < 6; h++) {
@@ -99,7 +60,7 @@ public final class RealsTest {
         }
         kit.does(0, 10, compare);
         for (int h = 0; h < 6; h++) {
-            Kit.due("9 " + h + " " + what, kit.house.number(h), holds(h, a, b) ? 1 : 0);
+            Kit.due("9 " + h + " " + what, kit.house.number(h), Model.compare(h, a, b) ? 1 : 0);
         }
     }
 
@@ -108,9 +69,9 @@ public final class RealsTest {
         String what = Long.toHexString(x);
         for (int h = 0; h < 10; h += 2) {
             kit.does(0, 10, take(0, x), Kit.b(8, 0, h), take(1, x), Kit.b(8, 1, h + 1));
-            Kit.due("8 " + h + " " + what, kit.house.real(0), Double.doubleToLongBits(changed(h, a)));
+            Kit.due("8 " + h + " " + what, kit.house.real(0), Double.doubleToLongBits(Model.one(h, a)));
             Kit.due("8 " + (h + 1) + " " + what, kit.house.real(1),
-                Double.doubleToLongBits(changed(h + 1, a)));
+                Double.doubleToLongBits(Model.one(h + 1, a)));
         }
         kit.does(0, 20, take(0, x), Kit.b(6, 0, 0), Kit.n(1, (int) x), Kit.b(5, 1, 1),
             Kit.b(20, 6, 0, 7, 0), Kit.b(19, 6, 2, 0, 7), Kit.b(20, 7, 1, 7, 0), Kit.b(19, 7, 3, 1, 7));
