@@ -122,7 +122,9 @@ public final class FuzzTest {
                 bytes[i + 1] = limit == 15 && op != 33 ? slot() : below(limit + 1);
             }
         }
-        return chance(85) ? fitting(bytes) : bytes;
+        int[] done = chance(85) ? fitting(bytes) : bytes;
+        return op == 21 && chance(70) ? Kit.join(Kit.n(done[2], below(3)), Kit.n(done[4], below(3)),
+            Kit.n(done[5], below(4)), done) : done;
     }
 
     private int[] ops(int most, int nested) {
@@ -166,7 +168,7 @@ public final class FuzzTest {
     // Bytes of values.
 
     private int[] thing(int kind, int depth) {
-        int size = chance(5) ? below(40) : below(4);
+        int size = chance(5) ? below(40) : below(6);
         int[] bytes = {kind};
         if (kind >= 1 && kind <= 8) {
             bytes = Kit.join(bytes, Kit.four(size));

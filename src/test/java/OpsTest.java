@@ -279,6 +279,12 @@ public final class OpsTest {
         due("no PART", kit.member(0, 2), -1);
         kit.run("21 within a BOX", 0, 0, 2, Kit.b(21, 10, 0, 10, 1, 2));
         due("21 within a BOX", kit.member(10, 0) * 100 + kit.member(10, 1) * 10 + kit.member(10, 2), 221);
+        kit.run("21 upwards", 0, 0, 3 + 1, Kit.b(11, 5), Kit.b(26, 0, 2, 5), Kit.b(21, 10, 0, 0, 1, 2));
+        due("21 upwards", kit.member(0, 0) * 100 + kit.member(0, 1) * 10 + kit.member(0, 2), 222);
+        kit.run("21 downwards", 0, 0, 1 + 1, Kit.b(21, 10, 1, 10, 0, 2));
+        due("21 downwards", kit.member(10, 0) * 100 + kit.member(10, 1) * 10 + kit.member(10, 2), 211);
+        kit.run("21 upwards", 1, MEMBER, 2, Kit.b(26, 10, 0, 11), Kit.b(21, 10, 0, 0, 1, 2));
+        due("21 upwards", kit.member(0, 0) * 100 + kit.member(0, 1) * 10 + kit.member(0, 2), 222);
         kit.run("22 of a BOX", 0, 0, 2, Kit.b(22, 1, 10));
         due("22: a new one", kit.house.same(1, 10), 0);
         due("22: its CLASS", kit.house.slot(1, 2), 0);

@@ -144,13 +144,15 @@ public final class PromisesTest {
             ten = i % 2 == 0 ? Kit.rounds(0, ten) : Kit.scope(0, 0, ten, NO_BYTES, NO_BYTES);
         }
         due("4: ten in one another", kit.patch(0, ten), 0);
-        int[] eleven = Kit.b(30, 0, 0, 0);
-        int place = 0;
-        for (int i = 0; i < 10; i++) {
-            eleven = Kit.choice(0, NO_BYTES, eleven);
-            place += 4;
+        for (int[] last : new int[][] {{30, 0, 0, 0}, {31, 0, 0}, {32, 0, 0, 0, 0, 0, 0}}) {
+            int[] eleven = Kit.join(Kit.b(11, 0), last);
+            int place = 2;
+            for (int i = 0; i < 10; i++) {
+                eleven = Kit.choice(0, NO_BYTES, eleven);
+                place += 4;
+            }
+            due("4: an eleventh", kit.patch(0, eleven), 1 + place);
         }
-        due("4: an eleventh", kit.patch(0, eleven), 1 + place);
         due("4: ten beside one another", kit.patch(0, Kit.times(12, 31, 0, 0)), 0);
     }
 
