@@ -595,9 +595,12 @@ public final class PatchHouse {
             return (x & ~SIGN) > INFINITE;
         }
 
+        // plain() and exponent() stand at the end of the longest ways through the calls, of which no
+        // one goes more than eight deep: they call nothing.
+
         /** The one NaN in place of all of them. */
         static long plain(long x) {
-            return isNan(x) ? NAN : x;
+            return (x & ~SIGN) > INFINITE ? NAN : x;
         }
 
         static int plainFloat(int bits) {
@@ -615,7 +618,8 @@ public final class PatchHouse {
         }
 
         private static int exponent(long x) {
-            return Math.max(field(x), 1) - BIAS - PLACES;
+            int field = (int) (x >>> PLACES) & 0x7FF;
+            return (field == 0 ? 1 : field) - BIAS - PLACES;
         }
 
         /** How far a mantissa that is not 0 must go left to have its highest bit where HIDDEN is. */

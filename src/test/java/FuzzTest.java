@@ -1,11 +1,14 @@
 import java.util.Random;
 import java.util.function.LongSupplier;
 
-/** Runs of calls that a seed makes, on PatchHouse and on the Model: every answer is the same. */
+/** Runs of at most 512 calls that a seed makes, on PatchHouse and on the Model: every answer is the same. */
 public final class FuzzTest {
+    private static final int LAST_QUESTIONS = 8 * 3 + 16 * 7;
+    private static final int MOST_CALLS_OF_A_STEP = 40;
+
     private final Random random;
     private final long seed;
-    private final PatchHouse house = new PatchHouse();
+    private final House house = new House();
     private final Model model = new Model();
     private int calls = 0;
     private final int slots;
@@ -123,6 +126,10 @@ public final class FuzzTest {
             }
         }
         int[] done = chance(85) ? fitting(bytes) : bytes;
+        if (op == 12 && chance(8)) {
+            // About as long as OUT has room for.
+            return Kit.join(Kit.n(done[3], 1980 + below(30)), done);
+        }
         return op == 21 && chance(70) ? Kit.join(Kit.n(done[2], below(3)), Kit.n(done[4], below(3)),
             Kit.n(done[5], below(4)), done) : done;
     }
@@ -212,6 +219,15 @@ public final class FuzzTest {
 
     // Calls.
 
+    /** Whether the house may still be asked that often ahead of the last questions. */
+    private boolean hasLeft(int more) {
+        return house.calls() + more <= House.MOST_CALLS - LAST_QUESTIONS;
+    }
+
+    private static int callsFor(int[] bytes) {
+        return 2 + (bytes.length + 19) / 20;
+    }
+
     private void tape(int[] bytes) {
         due("end", house.end(0), model.end(0));
         for (int i = 0; i < bytes.length; i += 20) {
@@ -226,9 +242,12 @@ public final class FuzzTest {
 
     private void patch() {
         int[] bytes = ops(chance(90) ? 200 : 230, 0);
-        tape(chance(15) ? spoilt(bytes) : bytes);
-        int p = chance(98) ? below(4) : below(20) - 2;
-        due("patch " + p, house.patch(p), model.patch(p));
+        bytes = chance(15) ? spoilt(bytes) : bytes;
+        if (hasLeft(callsFor(bytes) + 1)) {
+            tape(bytes);
+            int p = chance(98) ? below(4) : below(20) - 2;
+            due("patch " + p, house.patch(p), model.patch(p));
+        }
     }
 
     private void run() {
@@ -240,6 +259,20 @@ public final class FuzzTest {
             ENDS[answer]++;
             KINDS[model.look(0)]++;
         }
+        for (int what = 0; what < 4; what++) {
+            due("look " + what, house.look(what), model.look(what));
+        }
+    }
+
+    private void load(int[] bytes, int s) {
+        if (hasLeft(callsFor(bytes) + 1)) {
+            tape(bytes);
+            int answer = model.load(s);
+            due("load " + s, house.load(s), answer);
+            if (answer >= 0) {
+                LOADS[answer]++;
+            }
+        }
     }
 
     private void load() {
@@ -250,14 +283,8 @@ public final class FuzzTest {
         if (chance(3)) {
             bytes = Kit.join(Kit.b(1 + below(10)), Kit.four(random.nextInt() >> below(32)), bytes);
         }
-        tape(bytes);
-        int s = chance(98) ? slotOf(bytes.length == 0 ? 0 : bytes[0], bytes.length == 0 ? 16 : bytes[0])
-            : below(20) - 2;
-        int answer = model.load(s);
-        due("load " + s, house.load(s), answer);
-        if (answer >= 0) {
-            LOADS[answer]++;
-        }
+        load(bytes, chance(98) ? slotOf(bytes.length == 0 ? 0 : bytes[0], bytes.length == 0 ? 16 : bytes[0])
+            : below(20) - 2);
     }
 
     private void save() {
@@ -265,44 +292,66 @@ public final class FuzzTest {
         int answer = model.save(s);
         due("save " + s, house.save(s), answer);
         SAVES[answer >= 0 ? 0 : answer == -3 ? 1 : 2]++;
-        for (int i = -1; i < answer + 2; i++) {
-            int at = i;
-            dueOf("out " + i, () -> house.out(at), () -> model.out(at));
+        for (int i = 0; i < 8; i++) {
+            int at = below(Math.max(3, answer + 3)) - 1;
+            dueOf("out " + at, () -> house.out(at), () -> model.out(at));
         }
     }
 
-    private void tellAll() {
-        for (int i = -2; i < 25; i++) {
+    /** One question that changes nothing. */
+    private void ask() {
+        int i = below(26) - 2;
+        int s = chance(95) ? slot() : below(18) - 1;
+        int t = chance(95) ? slot() : below(18) - 1;
+        int at = chance(80) ? below(4) : below(14) - 1;
+        switch (below(8)) {
+            case 0:
+                due("look " + i, house.look(i), model.look(i));
+                break;
+            case 1:
+                dueOf("number " + i, () -> house.number(i & 15), () -> model.number(i & 15));
+                break;
+            case 2:
+                dueOf("real " + i, () -> house.real(i & 7), () -> model.real(i & 7));
+                break;
+            case 3:
+                due("slot " + s + " " + at, house.slot(s, at), model.slot(s, at));
+                break;
+            case 4:
+                due("same " + s + " " + t, house.same(s, t), model.same(s, t));
+                break;
+            default:
+                dueOf("member " + s + " " + at, () -> house.member(s, at), () -> model.member(s, at));
+                break;
+        }
+    }
+
+    /** At most LAST_QUESTIONS of them. */
+    private void askAll() {
+        for (int i = 0; i < 8; i++) {
             int at = i;
             due("look " + i, house.look(i), model.look(i));
-            dueOf("number " + i, () -> house.number(at), () -> model.number(at));
+            due("number " + i, house.number(i), model.number(i));
             dueOf("real " + i, () -> house.real(at), () -> model.real(at));
         }
-        for (int s = -1; s < 17; s++) {
-            tellSlot(s);
-        }
-    }
-
-    private void tellSlot(int s) {
-        for (int i = -1; i < 4; i++) {
-            due("slot " + s + " " + i, house.slot(s, i), model.slot(s, i));
-        }
-        for (int t = -1; t < 17; t++) {
-            due("same " + s + " " + t, house.same(s, t), model.same(s, t));
-        }
-        int most = Math.min(12, Math.max(4, model.slot(s, 1) + 1));
-        for (int i = -1; i < most; i++) {
-            int at = i;
-            dueOf("member " + s + " " + i, () -> house.member(s, at), () -> model.member(s, at));
+        for (int s = 0; s < 16; s++) {
+            int it = s;
+            due("slot " + s, house.slot(s, 0), model.slot(s, 0));
+            due("slot " + s + " 1", house.slot(s, 1), model.slot(s, 1));
+            due("slot " + s + " 2", house.slot(s, 2), model.slot(s, 2));
+            due("same " + s, house.same(s, s + 1), model.same(s, s + 1));
+            for (int i = 0; i < 3; i++) {
+                int at = i;
+                dueOf("member " + s + " " + i, () -> house.member(it, at), () -> model.member(it, at));
+            }
         }
     }
 
     private void perform() {
         for (int s = 0; s < slots; s++) {
-            tape(thing(chance(97) ? kinds[s] : 0, 1));
-            due("load " + s, house.load(s), model.load(s));
+            load(thing(chance(97) ? kinds[s] : 0, 1), s);
         }
-        for (int i = 0; i < 40; i++) {
+        while (hasLeft(MOST_CALLS_OF_A_STEP)) {
             int what = below(10);
             if (what < 4) {
                 patch();
@@ -314,8 +363,11 @@ public final class FuzzTest {
             } else {
                 save();
             }
-            tellAll();
+            for (int i = 0; i < 8 && hasLeft(1); i++) {
+                ask();
+            }
         }
+        askAll();
     }
 
     private static void mustBe(String what, int count) {
@@ -323,7 +375,7 @@ public final class FuzzTest {
     }
 
     public static void main(String[] args) {
-        int runs = args.length > 0 ? Integer.parseInt(args[0]) : 1500;
+        int runs = args.length > 0 ? Integer.parseInt(args[0]) : 12000;
         long first = args.length > 1 ? Long.parseLong(args[1]) : 1;
         for (long seed = first; seed < first + runs; seed++) {
             new FuzzTest(seed).perform();

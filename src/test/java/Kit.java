@@ -1,4 +1,5 @@
 import java.util.ArrayList;
+import java.util.Arrays;
 import java.util.List;
 import java.util.NoSuchElementException;
 import java.util.function.LongSupplier;
@@ -7,7 +8,7 @@ import java.util.function.LongSupplier;
 final class Kit {
     private static int wrong = 0;
 
-    final PatchHouse house = new PatchHouse();
+    final House house = new House();
 
     static void due(String what, long got, long want) {
         if (got != want) {
@@ -135,6 +136,44 @@ final class Kit {
         }
         due(what + ": out at the end", out(want.length), MISSING);
         due(what + ": out(-1)", out(-1), MISSING);
+    }
+
+    /** Makes MADE that number, by a ROW that no SLOT has then; PATCH 13, S 15 and N 7 are used for it. */
+    void fillTo(int made) {
+        int more = made - house.look(3);
+        due("fill", does(13, 20000, n(7, more - 1), b(12, 15, 1, 7), b(11, 15), n(7, 0)), 0);
+        due("fill: MADE", house.look(3), made);
+    }
+
+    /** What the calls that change nothing tell: of members and of OUT the first ones. */
+    long[] state() {
+        List<Long> all = new ArrayList<>();
+        for (int what = 0; what < 23; what++) {
+            all.add((long) house.look(what));
+        }
+        for (int n = 0; n < 8; n++) {
+            all.add((long) house.number(n));
+        }
+        for (int r = 0; r < 4; r++) {
+            all.add(house.real(r));
+        }
+        all.add(out(0));
+        all.add(out(1));
+        for (int s = 0; s < 16; s++) {
+            all.add((long) house.slot(s, 0));
+            if (house.slot(s, 0) != 0) {
+                all.add((long) house.slot(s, 1));
+                all.add((long) house.same(s, 0));
+                all.add(member(s, 0));
+                all.add(member(s, 1));
+            }
+        }
+        return all.stream().mapToLong(Long::longValue).toArray();
+    }
+
+    /** Nothing is told otherwise than before. */
+    void stays(String what, long[] before) {
+        due(what + ": all stays", Arrays.equals(before, state()) ? 1 : 0, 1);
     }
 
     // Calls that may throw: what is told instead is no answer of these.

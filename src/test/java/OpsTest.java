@@ -1,44 +1,5 @@
 /** What run() does with each OP: promise 8 by the document's PARTS 1 to 3. */
-public final class OpsTest {
-    private static final int[] NO_BYTES = {};
-
-    private static final int EMPTY = 1;
-    private static final int BOUNDS = 2;
-    private static final int NEGATIVE = 3;
-    private static final int KIND = 4;
-    private static final int MEMBER = 5;
-    private static final int DIVISION = 6;
-    private static final int TOLD = 7;
-    private static final int DEEP = 8;
-
-    private static void due(String what, long got, long want) {
-        Kit.due(what, got, want);
-    }
-
-    private static void dueReal(String what, Kit kit, int r, double want) {
-        due(what, kit.real(r), Double.doubleToLongBits(want));
-    }
-
-    /** N 0 to N 5 are 0 to 5, N 6 is -1; a thing of each kind, in the SLOT of its number; S 0 NOTHING. */
-    private static Kit kit() {
-        Kit kit = new Kit();
-        int[] bytes = Kit.n(6, -1);
-        for (int n = 1; n < 6; n++) {
-            bytes = Kit.join(bytes, Kit.n(n, n));
-        }
-        for (int w = 1; w <= 8; w++) {
-            bytes = Kit.join(bytes, Kit.b(12, w, w, 3));
-        }
-        bytes = Kit.join(bytes, Kit.b(13, 9, 3, 2), Kit.b(14, 10, 0, 3));
-        for (int c = 0; c < 5; c++) {
-            bytes = Kit.join(bytes, Kit.b(15, 11 + c, c));
-        }
-        due("kit", kit.does(14, 500, bytes), 0);
-        due("kit: MADE", kit.house.look(3), 8 * 4 + 1 + 3 + 3 * 3 + 4 + 5 * 4);
-        due("kit: FUEL", 500 - kit.house.look(2), 6 + 8 * 2 + 3 + 2 + 5);
-        return kit;
-    }
-
+public final class OpsTest extends Checks {
     private static void faults(String what, int kind, int[]... ops) {
         Kit kit = kit();
         int made = kit.house.look(3);

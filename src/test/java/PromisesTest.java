@@ -1,11 +1,5 @@
 /** Promises 1 to 14, one after another: ordinary calls, the edges the document names, wrong ones. */
-public final class PromisesTest {
-    private static final int[] NO_BYTES = {};
-
-    private static void due(String what, long got, long want) {
-        Kit.due(what, got, want);
-    }
-
+public final class PromisesTest extends Checks {
     private static void promise1() {
         Kit kit = new Kit();
         for (int what = 0; what < 23; what++) {
@@ -84,12 +78,12 @@ public final class PromisesTest {
         due("4: no such OP", kit.patch(0, Kit.b(255, 0, 35, 0)), 1);
         due("4: not whole", kit.patch(0, Kit.b(11, 0, 1, 0, 0, 0, 0)), 3);
         due("4: not whole, ahead of its operands", kit.patch(0, Kit.b(10, 16)), 1);
-        operandsOfPromise4(kit);
-        partsOfPromise4(kit);
+        operandsOfPromise4();
+        partsOfPromise4(new Kit());
     }
 
     /** The greatest operands of every OP are taken, one more is its place. */
-    private static void operandsOfPromise4(Kit kit) {
+    private static void operandsOfPromise4() {
         int[][] greatest = {
             {1, 7, 255, 255, 255, 255}, {2, 7, 7}, {3, 7, 7, 6}, {5, 3, 7}, {6, 7, 3}, {7, 3, 3, 7}, {8, 3, 9},
             {4, 3, 255, 255, 255, 255, 255, 255, 255, 255}, {9, 7, 3, 3, 5}, {10, 15, 15}, {11, 15},
@@ -101,6 +95,7 @@ public final class PromisesTest {
             {29, 5, 3, 15, 7}, {33, 15}, {34, 15},
         };
         for (int[] op : greatest) {
+            Kit kit = new Kit();
             due("4: OP " + op[0], kit.patch(0, op), 0);
             for (int i = 1; i < op.length; i++) {
                 if (op[i] != 255 && !(i == 1 && (op[0] == 19 || op[0] == 20 || op[0] == 27 || op[0] == 28))) {
@@ -110,6 +105,7 @@ public final class PromisesTest {
                 }
             }
         }
+        Kit kit = new Kit();
         due("4: WIDTH 9", kit.patch(0, Kit.b(19, 9, 0, 0, 0)), 2);
         due("4: WIDTH 9", kit.patch(0, Kit.b(20, 9, 0, 0, 0)), 2);
         due("4: WIDTH 0", kit.patch(0, Kit.b(19, 0, 0, 0, 0)), 2);
@@ -303,6 +299,11 @@ public final class PromisesTest {
         due("7: none", kit.out(5), Kit.MISSING);
         due("7: none", kit.out(Integer.MIN_VALUE), Kit.MISSING);
         due("7: none", kit.out(Integer.MAX_VALUE), Kit.MISSING);
+        edgesOfPromise6and7();
+    }
+
+    private static void edgesOfPromise6and7() {
+        Kit kit = new Kit();
         int made = kit.house.look(3);
         kit.does(0, 900, Kit.n(0, 1995), Kit.b(12, 1, 1, 0), Kit.n(0, 1996), Kit.b(12, 2, 1, 0));
         due("6: 2000 bytes", kit.house.save(1), 2000);

@@ -105,17 +105,17 @@ public final class RealsTest {
         for (long x : EDGES) {
             checkOne(kit(), x);
             checkOne(kit(), x | Long.MIN_VALUE);
-            Kit kit = kit();
             for (long y : EDGES) {
+                Kit kit = kit();
                 checkPair(kit, x, y);
                 checkPair(kit, x | Long.MIN_VALUE, y);
                 checkPair(kit, x, y | Long.MIN_VALUE);
                 checkPair(kit, x | Long.MIN_VALUE, y | Long.MIN_VALUE);
             }
         }
-        for (int i = 0; i < 20000; i++) {
+        for (int i = 0; i < 50000; i++) {
             Kit kit = kit();
-            for (int k = 0; k < 5; k++) {
+            for (int k = 0; k < 2; k++) {
                 long x = some();
                 checkOne(kit, x);
                 checkPair(kit, x, some());
