@@ -606,6 +606,57 @@ public final class OpEdgesTest extends Checks {
         due("NOTHING goes anywhere", kit.member(1, 1), -1);
     }
 
+    /** "10 s t: S s is what S t is. 11 s: NOTHING." */
+    private static void slotsOfSlots() {
+        for (int t = 0; t < 16; t++) {
+            int s = (t + 5) % 16;
+            Kit kit = allKinds();
+            kit.run("10", 0, 0, 1, Kit.b(10, s, t));
+            due("10: the same one", kit.house.same(s, t), 1);
+            due("10: S t stays", kit.house.slot(t, 0), t == 0 ? 16 : t);
+            kit.run("10 of itself", 0, 0, 1, Kit.b(10, t, t));
+            due("10 of itself", kit.house.slot(t, 0), t == 0 ? 16 : t);
+            kit.run("11", 0, 0, 1, Kit.b(11, t));
+            due("11: NOTHING", kit.house.slot(t, 0), 0);
+            due("11: others stay", kit.house.slot(s, 0), t == 0 ? 16 : t);
+            kit.run("10 and 11 of NOTHING", 0, 0, 2, Kit.b(10, s, t), Kit.b(11, t));
+            due("10 of NOTHING", kit.house.slot(s, 0), 0);
+            due("both NOTHING", kit.house.same(s, t), 1);
+        }
+    }
+
+    /** "12 s w n: a new ROW of N n members 0.", "13 ... new ROWS", "14 ... N n members NOTHING", "15 s c: a new PART." */
+    private static void newThings() {
+        int[][] ops = {
+            {12, 2, 1, 4}, {12, 2, 2, 4}, {12, 2, 3, 4}, {12, 2, 4, 4}, {12, 2, 5, 4}, {12, 2, 6, 4}, {12, 2, 7, 4},
+            {12, 2, 8, 4}, {13, 2, 4, 3}, {14, 2, 2, 4}, {15, 2, 0}, {15, 2, 4}, {16, 2, 6},
+        };
+        for (int[] op : ops) {
+            Kit kit = allKinds();
+            kit.does(15, 9, op, Kit.b(10, 3, 2), op);
+            due("OP " + op[0] + " makes a new one each time", kit.house.same(2, 3), 0);
+            int size = op[0] <= 14 ? 4 : -1;
+            due("OP " + op[0] + ": members", kit.house.slot(2, 1), size);
+            for (int i = 0; i < size; i++) {
+                due("OP " + op[0] + ", " + i, kit.member(2, i), op[0] == 12 ? 0 : op[0] == 13 ? 3 : -1);
+            }
+            due("OP " + op[0] + ": CLASS", kit.house.slot(2, 2), op[0] == 14 ? 2 : -1);
+        }
+    }
+
+    /** "23 s t i: S s is member N i of the GRID S t. ... 25 s t i: ... of the BOX S t." NOTHING, too. */
+    private static void membersThatAreNothing() {
+        Kit kit = allKinds();
+        kit.run("25 of NOTHING", 0, 0, 1, Kit.b(25, 1, 10, 2));
+        due("25 of NOTHING", kit.house.slot(1, 0), 0);
+        kit.run("24, 23 of NOTHING", 0, 0, 2, Kit.b(24, 9, 2, 1), Kit.b(23, 2, 9, 2));
+        due("23 of NOTHING", kit.house.slot(2, 0), 0);
+        kit.run("23 into the GRID's own SLOT", 0, 0, 1, Kit.b(23, 9, 9, 1));
+        due("a ROW now", kit.house.slot(9, 0) * 10 + kit.house.slot(9, 1), 42);
+        kit.run("25 into the BOX's own SLOT", 0, 0, 2, Kit.b(26, 10, 0, 13), Kit.b(25, 10, 10, 0));
+        due("a SCREW now", kit.house.same(10, 13), 1);
+    }
+
     /** "17 n s: N n is how many members a ROW, GRID or BOX has." */
     private static void howManyMembers() {
         for (int kind = 1; kind <= 10; kind++) {
@@ -739,6 +790,9 @@ public final class OpEdgesTest extends Checks {
         copiesAtTheirBounds();
         copiesThatOverlap();
         copiesUpToOneThatDoesNotGo();
+        slotsOfSlots();
+        newThings();
+        membersThatAreNothing();
         howManyMembers();
         whatASlotIs();
         clones();
