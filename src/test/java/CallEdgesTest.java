@@ -1,6 +1,9 @@
+import java.util.Arrays;
+import java.util.function.ToIntFunction;
+
 /**
- * The sentences of promises 1 to 14 that name a boundary, each with a test of its own: at the
- * boundary, below it, above it, and what later calls show. (Those of promise 4: PatchEdgesTest.)
+ * The sentences of promises 1 to 14, each with a test of its own: where it names a boundary, at it,
+ * below it, above it, and what later calls show. (Those of promise 4: PatchEdgesTest.)
  */
 public final class CallEdgesTest extends Checks {
     private static final int[] TROUBLE_9 = {16, 0, 0, 0, 9};
@@ -520,6 +523,122 @@ public final class CallEdgesTest extends Checks {
         due("14: no more the same one", kit.house.same(5, 4), 0);
     }
 
+    // All calls.
+
+    // Where Kit.state() has what look() tells of the TAPE, of OUT, and of PATCH 0; where OUT's first bytes stand.
+    private static final int MADE_IN_ALL = 3;
+    private static final int TAPE = 4;
+    private static final int OUT = 5;
+    private static final int PATCH_0 = 7;
+    private static final int FIRST_OF_OUT = 35;
+    private static final int SECOND_OF_OUT = 36;
+    private static final int S_0 = 37;
+
+    /** Something everywhere: PATCHES, NUMBERS, REALS, SLOTS, the TAPE, OUT, a FAULT of the latest run. */
+    private static Kit somethingEverywhere() {
+        Kit kit = allKinds();
+        kit.does(1, 50, Kit.r(0, 0.5), Kit.r(1, -1.5), Kit.r(2, 2.5), Kit.r(3, -3.5), Kit.n(7, 77));
+        due("all: save", kit.house.save(14), 17);
+        kit.run("all: told", 1, 7, 1, Kit.b(34, 0));
+        kit.tape(11, 3);
+        return kit;
+    }
+
+    /** A call changes what the state has at these places, and nothing else. */
+    private static void changes(String what, int answer, ToIntFunction<House> call, int... places) {
+        Kit kit = somethingEverywhere();
+        long[] before = kit.state();
+        due("all: " + what, call.applyAsInt(kit.house), answer);
+        long[] after = kit.state();
+        due("all: " + what + ": as many things", after.length, before.length);
+        for (int i = 0; i < Math.min(before.length, after.length); i++) {
+            boolean stays = before[i] == after[i];
+            boolean mayChange = Arrays.binarySearch(places, i) >= 0;
+            due("all: " + what + ": place " + i + (mayChange ? " changes" : " stays"), stays ? 1 : 0, mayChange ? 0 : 1);
+        }
+    }
+
+    private static int tapeAndLoad(House house, int a, int b) {
+        house.end(0);
+        house.feed(a, b, 0, 0, 0);
+        return house.load(0);
+    }
+
+    /** "Nothing is promised beyond the answers and state changes described above": a call leaves the rest as it was. */
+    private static void callsLeaveTheRest() {
+        changes("feed", 22, house -> house.feed(1, 2, 3, 4, 5), TAPE);
+        changes("end", 1, house -> house.end(1), TAPE);
+        changes("patch", 0, house -> house.patch(0), TAPE, PATCH_0);
+        changes("patch, refused", 2, house -> house.end(1) - 1 + house.feed(0x10000000, 0, 0, 0, 0) - 21 + house.patch(0), TAPE);
+        changes("load of a TROUBLE", 0, house -> tapeAndLoad(house, 0x10000000, 0x05000000), MADE_IN_ALL, TAPE, S_0 + 3);
+        changes("load of no value", 4, house -> tapeAndLoad(house, 0x11000000, 0), MADE_IN_ALL, TAPE);
+        changes("load of a value that does not end", 2, house -> house.end(0) + house.load(0), MADE_IN_ALL, TAPE);
+        changes("save", 18, house -> house.save(15), OUT, FIRST_OF_OUT);
+        changes("save of the same one again", 17, house -> house.save(14));
+        changes("save of a TROUBLE", 5, house -> house.save(0), OUT, FIRST_OF_OUT, SECOND_OF_OUT);
+        changes("run of an empty PATCH", 0, house -> house.run(9, 3), 0, 1, 2);
+        changes("out", 14, house -> house.out(0));
+        changes("look", 7, house -> house.look(0));
+        changes("number", 77, house -> house.number(7));
+        changes("real", 1, house -> house.real(1) == Double.doubleToLongBits(-1.5) ? 1 : 0);
+        changes("slot", 15, house -> house.slot(15, 0));
+        changes("member", -1, house -> (int) house.member(0, 0));
+        changes("same", 0, house -> house.same(1, 2));
+    }
+
+    /** What came onto the TAPE later changes neither a PATCH nor a value that was taken from it. */
+    private static void whatWasTakenFromTheTape() {
+        Kit kit = new Kit();
+        due("all: load", kit.load(0, Kit.b(1), Kit.four(3), Kit.b(7, 8, 9)), 0);
+        due("all: patch", kit.patch(1, Kit.n(1, 0x0A0B0C0D)), 0);
+        kit.house.feed(-1, -1, -1, -1, -1);
+        due("all: the PATCH", kit.house.run(1, 1), 0);
+        due("all: the PATCH", kit.number(1), 0x0A0B0C0D);
+        kit.saved("all: the value", 0, Kit.b(1), Kit.four(3), Kit.b(7, 8, 9));
+        kit.does(2, 9, Kit.n(2, 55), Kit.b(20, 1, 0, 7, 2));
+        due("all: what was saved is not the value", kit.out(5), 7);
+        due("all: the value itself", kit.member(0, 0), 55);
+    }
+
+    /** "NUMBERS N0 to N7 (ints), REALS R0 to R3 (doubles), SLOTS S0 to S15 are those of the house." */
+    private static void thoseOfTheHouse() {
+        Kit kit = new Kit();
+        kit.patch(3, Kit.n(4, 44), Kit.r(2, 2.5), Kit.b(16, 9, 4));
+        kit.patch(4, Kit.b(2, 5, 4), Kit.b(7, 3, 2, 0), Kit.b(10, 8, 9), Kit.n(4, 45));
+        due("2: one PATCH in another, and what is behind it", kit.does(5, 20, Kit.b(33, 3), Kit.b(33, 4), Kit.b(2, 6, 4)), 0);
+        due("2: N 5", kit.number(5), 44);
+        due("2: N 6", kit.number(6), 45);
+        dueReal("2: R 3", kit, 3, 2.5);
+        due("2: S 8", kit.house.same(8, 9), 1);
+        due("2: the next run has them, too", kit.house.run(4, 20), 0);
+        due("2: N 5", kit.number(5), 45);
+        dueReal("2: R 3", kit, 3, 5.0);
+        due("2: a run that a FAULT ended", kit.does(6, 20, Kit.n(4, 46), Kit.r(2, 1.0), Kit.b(34, 0)), 1);
+        due("2: leaves them, too", kit.house.run(4, 20), 0);
+        due("2: N 5", kit.number(5), 46);
+        dueReal("2: R 3", kit, 3, 6.0);
+        due("2: a load has its SLOT there", kit.load(9, Kit.b(16), Kit.four(3)), 0);
+        due("2: the next run has it", kit.house.run(4, 20), 0);
+        due("2: S 8", kit.member(8, 0), 3);
+    }
+
+    /** Two objects have nothing in common, and the same calls have the same answers. */
+    private static void twoHouses() {
+        Kit first = somethingEverywhere();
+        Kit second = new Kit();
+        due("1: patch", second.patch(15, Kit.n(0, 9)), 0);
+        Kit third = somethingEverywhere();
+        due("1: the same calls, the same answers", Arrays.equals(first.state(), third.state()) ? 1 : 0, 1);
+        long[] before = first.state();
+        due("1: full", third.does(0, 9, Kit.n(0, GREATEST), Kit.b(12, 0, 1, 0)), 3);
+        third.house.feed(1, 1, 1, 1, 1);
+        third.house.save(0);
+        first.stays("1: what another object does", before);
+        due("1: its PATCH is its own", second.house.run(15, 1), 0);
+        due("1: its NUMBERS are its own", second.number(0), 9);
+        due("1: nothing MADE", second.house.look(3), 0);
+    }
+
     // 'An object is used for at most 512 calls after it has been made'.
 
     private static void fiveHundredAndTwelveCalls() {
@@ -565,6 +684,10 @@ public final class CallEdgesTest extends Checks {
         memberOfEachKind();
         memberAtItsBounds();
         sameOnes();
+        callsLeaveTheRest();
+        whatWasTakenFromTheTape();
+        thoseOfTheHouse();
+        twoHouses();
         fiveHundredAndTwelveCalls();
         Kit.finish();
     }

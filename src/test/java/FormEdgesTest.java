@@ -1,6 +1,6 @@
 import java.util.Arrays;
 
-/** The sentences of PART 4, THE FORM, that name a boundary: READ by load(), WRITTEN by save(). */
+/** The sentences of PART 4, THE FORM: READ by load(), WRITTEN by save(). */
 public final class FormEdgesTest extends Checks {
     // What is MADE of a TROUBLE that S 0 has ahead, and of a FAULT.
     private static final int AHEAD = 4;
@@ -311,6 +311,33 @@ public final class FormEdgesTest extends Checks {
         }
     }
 
+    /** "THE FORM of a value in bytes": of what PATCHES made, too; what is WRITTEN is READ as the like of it. */
+    private static void writtenAndReadAgain() {
+        for (int s = 0; s < 16; s++) {
+            Kit kit = allKinds();
+            // A ROW with numbers in it, a GRID with NOTHING, a BOX of a PART, a CASE with that BOX, all by OPS.
+            due("made", kit.does(0, 99, Kit.r(0, -0.1), Kit.n(7, 0xC0FFEE), Kit.b(20, 4, 4, 2, 7), Kit.b(20, 7, 7, 1, 0),
+                Kit.b(20, 6, 6, 0, 0), Kit.b(11, 12), Kit.b(13, 9, 3, 1), Kit.b(24, 9, 1, 12), Kit.b(28, 0, 13, 7), Kit.b(28, 1, 13, 0),
+                Kit.b(26, 10, 2, 13), Kit.b(28, 3, 15, 10), Kit.b(28, 2, 15, 6)), 0);
+            int length = kit.house.save(s);
+            int[] form = new int[Math.max(0, length)];
+            for (int i = 0; i < form.length; i++) {
+                form[i] = (int) kit.out(i);
+            }
+            due("its first byte is what it is", form[0], kit.house.slot(s, 0));
+            int t = (s + 1) % 16;
+            due("read again", kit.load(t, form), 0);
+            due("another one, but NOTHING", kit.house.same(s, t), kit.house.slot(s, 0) == 0 ? 1 : 0);
+            for (int what = 0; what < 3; what++) {
+                due("the like of it", kit.house.slot(t, what), kit.house.slot(s, what));
+            }
+            for (int i = 0; i < 4; i++) {
+                due("the like of it", kit.member(t, i), kit.member(s, i));
+            }
+            kit.saved("written again", t, form);
+        }
+    }
+
     /** The same thing twice is WRITTEN twice, and READ as two. */
     private static void theSameOneTwice() {
         Kit kit = new Kit();
@@ -353,6 +380,7 @@ public final class FormEdgesTest extends Checks {
         deepOrTooLong();
         membersOfRows();
         fieldsOfParts();
+        writtenAndReadAgain();
         theSameOneTwice();
         fullOnTheWay();
         Kit.finish();

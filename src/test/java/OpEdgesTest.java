@@ -1,4 +1,4 @@
-/** The sentences of PART 2 on single OPS, and of PART 3, WHICH FAULT, that name a boundary. */
+/** The sentences of PART 2 on single OPS, and of PART 3, WHICH FAULT. */
 public final class OpEdgesTest extends Checks {
     private static final double NAN = Double.NaN;
     private static final double MOST = Double.MAX_VALUE;
@@ -338,6 +338,19 @@ public final class OpEdgesTest extends Checks {
         due("== itself", kit.number(2), 0);
     }
 
+    /** R r h R r: both are looked at ahead of what R r becomes. */
+    private static void withItself() {
+        double[] reals = {2.5, -2.5, 0.0, -0.0, MOST, TINY, INFINITE, NAN};
+        for (double x : reals) {
+            double[] want = {x + x, x - x, x * x, x / x, x % x, x, x, x};
+            for (int h = 0; h < 8; h++) {
+                Kit kit = new Kit();
+                kit.run("7 " + h + " of itself", 0, 0, 2, Kit.r(1, x), Kit.b(7, 1, 1, h));
+                dueReal("7 " + h + " of itself: " + x, kit, 1, want[h]);
+            }
+        }
+    }
+
     // Things, those of allKinds().
 
     /** An OP as the only one: the FAULT's kind (0 if there is none), and with a FAULT that all else stays. */
@@ -572,6 +585,35 @@ public final class OpEdgesTest extends Checks {
         }
     }
 
+    /** "21 s i t j k: COPY N k members of S s from N i on to S t from N j on." */
+    private static void copiesFromOneToAnother() {
+        for (int kind = 1; kind <= 10; kind++) {
+            for (int from = 0; from <= 4; from++) {
+                for (int to = 0; to <= 4; to++) {
+                    for (int count = 0; count + Math.max(from, to) <= 4; count++) {
+                        copied(kind, from, to, count);
+                    }
+                }
+            }
+        }
+    }
+
+    private static void copied(int kind, int from, int to, int count) {
+        int[] head = Kit.join(Kit.b(kind), kind == 10 ? Kit.b(0) : NO_BYTES, Kit.four(4));
+        int[] nothing = kind >= 9 ? new int[4] : new int[4 * Model.BYTES[kind]];
+        Kit kit = new Kit();
+        due("copied", kit.load(3, head, fourMembers(kind)), 0);
+        due("copied", kit.load(12, head, nothing), 0);
+        kit.run("copied", 0, 0, 4 + (count > 0 ? 1 : 0), Kit.n(5, from), Kit.n(6, to), Kit.n(4, count), Kit.b(21, 3, 5, 12, 6, 4));
+        String what = "21 of kind " + kind + ": " + from + " " + to + " " + count;
+        for (int i = 0; i < 4; i++) {
+            int was = i >= to && i < to + count ? i - to + from : -1;
+            long none = kind >= 9 ? -1 : 0;
+            due(what + ", " + i, kit.member(12, i), was < 0 ? none : kind == 8 ? was / 2 : was);
+        }
+        kit.saved(what + ": S s stays", 3, head, fourMembers(kind));
+    }
+
     /** "one that does not go where it shall is MEMBER: those ahead of it stay copied (NOTHING goes anywhere)" */
     private static void copiesUpToOneThatDoesNotGo() {
         int[] bolt = Kit.join(Kit.b(12), new int[12]);
@@ -720,6 +762,39 @@ public final class OpEdgesTest extends Checks {
         }
     }
 
+    /** "27 h n s: of the PART S s h 0 COUNT goes to N n, 1 WEIGHT to R n (0 to 3), ...", "28 h s n: likewise N n, R n, S n becomes it" */
+    private static void fieldsFromAndToEachPlace() {
+        for (int s = 0; s < 16; s++) {
+            for (int n = 0; n < 8; n++) {
+                Kit kit = new Kit();
+                kit.run("28 of ints", 0, 0, 6, Kit.b(15, s, 4), Kit.n(n, 500 + n), Kit.b(28, 0, s, n), Kit.n(n, -9 - n), Kit.b(28, 2, s, n),
+                    Kit.n(n, 0));
+                due("28 0 from N " + n, kit.member(s, 0), 500 + n);
+                due("28 2 from N " + n, kit.member(s, 2), -9 - n);
+                kit.run("27 0", 0, 0, 1, Kit.b(27, 0, n, s));
+                due("27 0 to N " + n, kit.number(n), 500 + n);
+                kit.run("27 2", 0, 0, 1, Kit.b(27, 2, n, s));
+                due("27 2 to N " + n, kit.number(n), -9 - n);
+                due("others stay", kit.number((n + 1) % 8), 0);
+            }
+            for (int r = 0; r < 4; r++) {
+                Kit kit = new Kit();
+                kit.run("28 of reals", 0, 0, 4, Kit.b(15, s, 0), Kit.r(r, 0.5 + r), Kit.b(28, 1, s, r), Kit.r(r, 0.0));
+                due("28 1 from R " + r, kit.member(s, 1), Double.doubleToLongBits(0.5 + r));
+                kit.run("27 1", 0, 0, 1, Kit.b(27, 1, r, s));
+                dueReal("27 1 to R " + r, kit, r, 0.5 + r);
+                dueReal("others stay", kit, (r + 1) % 4, 0.0);
+            }
+            int box = (s + 3) % 16;
+            for (int t = 0; t < 16; t++) {
+                Kit kit = new Kit();
+                kit.run("28 and 27 of INNER", 0, 0, 4, Kit.b(15, s, 4), Kit.b(14, box, 2, 0), Kit.b(28, 3, s, box), Kit.b(27, 3, t, s));
+                due("27 3 to S " + t, kit.house.same(t, box), 1);
+                due("its CLASS", kit.house.slot(t, 2), 2);
+            }
+        }
+    }
+
     /** "17, 22 of PARTS, TROUBLES: KIND. 12 to 16, 22: FULL behind all these, ahead of what is made." */
     private static void fullBehindTheFaults() {
         // Room for a FAULT and nothing else that is asked for.
@@ -782,6 +857,7 @@ public final class OpEdgesTest extends Checks {
         leastAbove();
         nearestFloats();
         compared();
+        withItself();
         emptyAndKind();
         noSuchMember();
         belowZero();
@@ -789,6 +865,7 @@ public final class OpEdgesTest extends Checks {
         copiesOfOtherKinds();
         copiesAtTheirBounds();
         copiesThatOverlap();
+        copiesFromOneToAnother();
         copiesUpToOneThatDoesNotGo();
         slotsOfSlots();
         newThings();
@@ -796,6 +873,7 @@ public final class OpEdgesTest extends Checks {
         howManyMembers();
         whatASlotIs();
         clones();
+        fieldsFromAndToEachPlace();
         fullBehindTheFaults();
         told();
         Kit.finish();

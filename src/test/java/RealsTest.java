@@ -95,6 +95,44 @@ public final class RealsTest {
             Double.doubleToLongBits(Double.longBitsToDouble(wide)));
     }
 
+    /** The number that gives 1 with an odd one, by their lowest 64 bits. */
+    private static long inverse(long odd) {
+        long x = odd;
+        for (int i = 0; i < 6; i++) {
+            x *= 2 - odd * x;
+        }
+        return x;
+    }
+
+    private static long lowest(int places, long bits) {
+        return bits & (1L << places) - 1;
+    }
+
+    /**
+     * Products whose bits behind those that a real keeps are 1, then zeros, then one last 1: that one alone says that
+     * they are more than halfway. Its place goes through all that it can be at.
+     */
+    private static void productsJustAboveHalfway() {
+        for (int last = 0; last < 51; last++) {
+            for (int half = 51; half <= 52; half++) {
+                int zerosOfFirst = Math.min(last, 22);
+                int zeros = last - zerosOfFirst;
+                long first = 1L << 52 - zerosOfFirst | lowest(52 - zerosOfFirst, RANDOM.nextLong()) | 1;
+                // As many places of the second one as say what those up to the half are; the others are free.
+                int told = half - last + 1;
+                long second = lowest(told, ((1L << half - last) + 1) * inverse(first));
+                long more = 1L << 52 - zeros | lowest(52 - zeros, RANDOM.nextLong());
+                second |= more >> told << told;
+                if (second >> 52 - zeros == 1) {
+                    long x = lowest(52, first << zerosOfFirst) | 1023L << 52;
+                    long y = lowest(52, second << zeros) | 1023L << 52;
+                    checkPair(kit(), x, y);
+                    checkPair(kit(), x | Long.MIN_VALUE, y);
+                }
+            }
+        }
+    }
+
     private static Kit kit() {
         Kit kit = new Kit();
         kit.does(0, 20, Kit.n(0, 1), Kit.b(12, 0, 6, 0), Kit.b(12, 1, 7, 0), Kit.n(7, 0));
@@ -123,6 +161,9 @@ public final class RealsTest {
                 checkPair(kit, x, x + RANDOM.nextInt(9) - 4 ^ (k == 0 ? Long.MIN_VALUE : 0));
                 checkLoaded(kit, RANDOM.nextInt(), some());
             }
+        }
+        for (int i = 0; i < 20; i++) {
+            productsJustAboveHalfway();
         }
         for (long bits : EDGES) {
             Kit kit = kit();

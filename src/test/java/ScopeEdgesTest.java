@@ -1,4 +1,4 @@
-/** The sentences of PART 2 on parts, PATCHES in one another, SCOPES, FUEL and DEEP that name a boundary. */
+/** The sentences of PART 2 on parts, PATCHES in one another, SCOPES, FUEL and DEEP. */
 public final class ScopeEdgesTest extends Checks {
     // An OP (or some) for each kind of FAULT, with things(): the FUEL that it takes stands in FUEL_OF.
     private static final int[][] FAULTS = {
@@ -404,6 +404,34 @@ public final class ScopeEdgesTest extends Checks {
 
     // FUEL.
 
+    /** "each OP takes 1 as it begins" */
+    private static void eachOpTakesOne() {
+        // With allKinds(): N 0 is 0, so that those which make or copy have no members.
+        int[][] ops = {
+            {1, 5, 0, 0, 0, 9}, {2, 5, 1}, {3, 5, 1, 2}, {4, 2, 64, 0, 0, 0, 0, 0, 0, 0}, {5, 2, 4}, {6, 5, 3}, {7, 3, 3, 0},
+            {8, 3, 8}, {9, 5, 0, 0, 4}, {10, 1, 2}, {11, 1}, {12, 1, 2, 0}, {13, 1, 0, 3}, {14, 1, 2, 0}, {15, 1, 3}, {16, 1, 4},
+            {17, 5, 9}, {18, 5, 1, 1}, {19, 4, 5, 4, 1}, {20, 4, 4, 1, 5}, {21, 4, 1, 4, 2, 0}, {23, 1, 9, 1}, {24, 9, 1, 4},
+            {25, 1, 10, 1}, {26, 10, 1, 13}, {27, 0, 5, 11}, {28, 0, 11, 5}, {29, 5, 3, 13, 0}, {30, 0, 0, 0}, {31, 0, 0},
+            {32, 255, 0, 0, 0, 0, 0}, {33, 7}, {34, 0},
+        };
+        for (int[] op : ops) {
+            Kit kit = allKinds();
+            kit.patch(0, op);
+            kit.patch(1, Kit.n(7, 22), op);
+            kit.house.run(9, 0);
+            long[] before = kit.state();
+            due("OP " + op[0] + " without FUEL", kit.house.run(0, 0), 2);
+            kit.stays("OP " + op[0] + " without FUEL", before);
+            due("OP " + op[0] + " behind another, FUEL for that", kit.house.run(1, 1), 2);
+            due("OP " + op[0] + " behind another, which was done", kit.number(7), 22);
+            due("OP " + op[0] + " with 1", kit.house.run(0, 1), op[0] == 34 ? 1 : 0);
+            due("OP " + op[0] + " with 1: none is left", kit.house.look(2), 0);
+            kit = allKinds();
+            due("OP " + op[0] + " with 20000", kit.does(0, 20000, op), op[0] == 34 ? 1 : 0);
+            due("OP " + op[0] + " with 20000: what is left", kit.house.look(2), 19999);
+        }
+    }
+
     /** "1 more for each 8 members begun that they made, copied or have", "behind what they did" */
     private static void fuelForMembers() {
         for (int size : new int[] {0, 1, 7, 8, 9, 15, 16, 17, 64, 65}) {
@@ -584,6 +612,7 @@ public final class ScopeEdgesTest extends Checks {
         always();
         tenScopes();
         faultInRounds();
+        eachOpTakesOne();
         fuelForMembers();
         noFuelForAFault();
         fuelOfAScope();

@@ -1,4 +1,4 @@
-/** The sentences of PART 1, VALUES, that name a boundary: WIDTHS, CLASSES, what PARTS tell, MADE and FULL. */
+/** The sentences of PART 1, VALUES: WIDTHS, CLASSES, what PARTS tell, MADE and FULL. */
 public final class ValueEdgesTest extends Checks {
     // ROWS.
 
@@ -242,6 +242,30 @@ public final class ValueEdgesTest extends Checks {
         dueReal("with a FAULT R r stays", kit, 1, 5.5);
     }
 
+    private static int[] form(int c, int count, double weight, int price) {
+        return Kit.join(Kit.b(11 + c), Kit.four(count), Kit.bits(weight), c >= 3 ? Kit.four(price) : NO_BYTES);
+    }
+
+    /** "more by what each member of INNER weighs": each by its own CLASS, CASES in CASES too; and the LOAD of such a CASE. */
+    private static void membersOfEachClass() {
+        int[] innermost = Kit.join(form(4, 5, 32.0, 9), Kit.b(10, 2), Kit.four(2), form(2, 6, 64.0, 0), form(2, -2, 128.0, 0));
+        double inner = 32.0 + (64.0 + 1.5) + (128.0 - 0.5);
+        int[] all = Kit.join(form(4, 7, 1.0, 100), Kit.b(10, 0), Kit.four(6), form(0, 3, 2.0, 0), form(1, 3, 4.0, 0),
+            form(2, 3, 8.0, 0), form(3, 3, 16.0, 50), innermost, form(0, 0, -0.125, 0));
+        double weighs = 1.0 + 2.0 + 4.0 + (8.0 + 0.75) + 16.0 + inner - 0.125;
+        Kit kit = new Kit();
+        due("a CASE of all CLASSES", kit.load(0, all), 0);
+        kit.run("it weighs", 0, 0, 1 + 1 + 6 + 2, Kit.b(29, 0, 1, 0, 0));
+        dueReal("it weighs", kit, 1, weighs);
+        for (int h : new int[] {1, 2, 4}) {
+            kit.run("its LOAD", 0, 0, 2 + 1 + 6 + 2, Kit.n(2, 3), Kit.b(29, h, 1, 0, 2));
+            dueReal("its LOAD as " + h, kit, 1, 3 * weighs + 3 * 100.0 + 1.0);
+        }
+        // The same BOX as INNER of two CASES weighs in both.
+        kit.run("the same INNER", 0, 0, 4 + 1 + 6 + 2, Kit.b(15, 1, 4), Kit.b(27, 3, 2, 0), Kit.b(28, 3, 1, 2), Kit.b(29, 0, 2, 1, 0));
+        dueReal("the same INNER", kit, 2, weighs - 1.0);
+    }
+
     /** "LOAD of n: of what is WEIGHED n times what it weighs, of what is PRICED n times PRICE; ..." */
     private static void loads() {
         for (int n : new int[] {0, 1, -1, 3, 65536, LEAST, GREATEST}) {
@@ -478,6 +502,7 @@ public final class ValueEdgesTest extends Checks {
         whatGoesIntoABox();
         whatOneWeighs();
         whatACaseWeighs();
+        membersOfEachClass();
         loads();
         whoCanBeAsked();
         whatIsMade();
