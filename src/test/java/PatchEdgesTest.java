@@ -158,6 +158,19 @@ public final class PatchEdgesTest extends Checks {
             checked("32 b " + size, 6, Kit.b(32, 0, 0, 0, 0, size, 0));
             checked("32 c " + size, 7, Kit.b(32, 0, 0, 0, 0, 0, size));
         }
+        // What stands behind a part begins where that ends, however long it is.
+        for (int size : new int[] {2, 126, 127, 128, 129, 130, 190}) {
+            int[] part = size % 2 == 0 ? Kit.times(size / 2, 11, 0) : Kit.join(Kit.b(2, 0, 0), Kit.times(size / 2 - 1, 11, 0));
+            checked("31 of " + size + ", an OP behind it", 0, Kit.b(31, 0, size), part, Kit.b(11, 15));
+            checked("31 of " + size + ", no OP behind it", 1 + 3 + size, Kit.b(31, 0, size), part, Kit.b(35, 0));
+            checked("30 a of " + size + ", no OP behind it", 1 + 4 + size, Kit.b(30, 0, size, 0), part, Kit.b(35, 0));
+            checked("30 b of " + size + ", no OP behind it", 1 + 4 + size, Kit.b(30, 0, 0, size), part, Kit.b(35, 0));
+            for (int which = 0; which < 3; which++) {
+                int[] head = {32, 0, 0, 0, 0, 0, 0};
+                head[4 + which] = size;
+                checked("32 of " + size + ", no OP behind it", 1 + 7 + size, head, part, Kit.b(35, 0));
+            }
+        }
         checked("as long as a part can be", 0, Kit.b(31, 0, 197), Kit.b(33, 0), Kit.times(65, 2, 0, 0));
         checked("one more", 3, Kit.b(31, 0, 198), Kit.b(33, 0), Kit.times(65, 2, 0, 0));
     }
